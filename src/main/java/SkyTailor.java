@@ -407,7 +407,7 @@ public final class SkyTailor {
             trade.shorten(trial, seed + i, q, days);
             fewest = Math.min(fewest, trial.hoursLeft());
             most = Math.max(most, trial.hoursLeft());
-            cuts += trade.takesOffTrial(shop.orderPart(order, Shop.PATTERN)) ? 1 : 0;
+            cuts += trial.takePattern(shop, patterns, shop.orderPart(order, Shop.PATTERN)) ? 1 : 0;
         }
         if (what == 2) {
             return cuts;
@@ -1180,12 +1180,15 @@ public final class SkyTailor {
             return true;
         }
 
-        /** Takes all runs of a row, one by one; false at the first that can't be had. */
-        boolean takeRuns(Shop shop, int[] rows, int from) {
+        /** Takes a pattern's runs, one by one; false, if it is not told, or at the first that can't be had. */
+        boolean takePattern(Shop shop, Patterns patterns, int pattern) {
+            if (!patterns.isTold(pattern)) {
+                return false;
+            }
             int length = 1;
             for (int hour = 1; hour <= HOURS; hour++) {
-                int kind = at(rows, from + hour - 1);
-                if (hour < HOURS && at(rows, from + hour) == kind) {
+                int kind = patterns.kindAt(pattern, hour - 1);
+                if (hour < HOURS && patterns.kindAt(pattern, hour) == kind) {
                     length++;
                 } else if (take(shop, kind, length)) {
                     length = 1;
@@ -1472,21 +1475,16 @@ public final class SkyTailor {
             }
         }
 
-        /** Whether a pattern can be cut off the bolts of the trial, which loses their cloth. */
-        boolean takesOffTrial(int pattern) {
-            return patterns.isTold(pattern) && trial.takeRuns(shop, patterns.rows, HOURS * pattern);
-        }
-
+        /** Whether a pattern can be cut; the trial is then the shop as it stands, less the cloth. */
         boolean allowsCut(int client, int pattern) {
             trial.copyFrom(now);
-            return !now.hasSuit(client) && takesOffTrial(pattern);
+            return !now.hasSuit(client) && trial.takePattern(shop, patterns, pattern);
         }
 
         private boolean cutSuit(int client, int pattern) {
             if (!allowsCut(client, pattern)) {
                 return false;
             }
-            // the trial is the shop as it stands, less the cloth
             trial.dress(client, patterns.rows, HOURS * pattern);
             now.copyFrom(trial);
             return true;
@@ -1655,7 +1653,7 @@ public final class SkyTailor {
         }
 
         /** Does the steps of a row, as far as the work may begin any. */
-        void doSteps(Trade trade, int from, int to, int open) {
+        private void doSteps(Trade trade, int from, int to, int open) {
             for (int i = from; i < to && begun < MOST_BEGUN; i++) {
                 begun++;
                 if (part(i, 0) == AGAIN) {

@@ -12,6 +12,8 @@ final class Model {
     static final List<String> KINDS = List.of("sun", "rain", "grey", "wind", "frost", "fog");
 
     static final class Fault extends Exception {
+        private static final long serialVersionUID = 1;
+
         final int kind;
         final int place;
 

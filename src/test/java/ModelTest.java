@@ -60,7 +60,7 @@ public final class ModelTest {
     }
 
     private String kind() {
-        return " " + Model.KINDS.get(chance(75) ? pick(3) : pick(6));
+        return " " + Model.KINDS.get(chance(92) ? pick(3) : pick(6));
     }
 
     private String number(int least, int most) {
@@ -70,9 +70,10 @@ public final class ModelTest {
     private String shopText() {
         StringBuilder s = new StringBuilder();
         int clients = 1 + pick(6);
-        int bolts = chance(90) ? 3 + pick(8) : pick(4);
+        int bolts = chance(90) ? 6 + pick(5) : pick(5);
         for (int i = 0; i < bolts; i++) {
-            s.append("bolt").append(kind()).append(chance(50) ? number(1, 14) : number(1, 60)).append(";");
+            String kind = chance(50) ? " " + Model.KINDS.get(i % 3) : kind();
+            s.append("bolt").append(kind).append(chance(30) ? number(1, 14) : number(1, 60)).append(";");
         }
         for (int i = 0; i < clients; i++) {
             s.append("client ").append(pick(3)).append(blanks()).append(";");
@@ -86,7 +87,7 @@ public final class ModelTest {
         }
         int orders = pick(9);
         for (int i = 0; i < orders; i++) {
-            s.append("order ").append(pick(clients)).append(number(0, 3)).append(number(1, chance(50) ? 6 : 60))
+            s.append("order ").append(pick(clients)).append(number(0, chance(90) ? 3 : 5)).append(number(1, chance(50) ? 6 : 60))
                 .append(number(0, chance(50) ? 5 : 999)).append(number(1, 24)).append(";");
         }
         if (chance(70)) {
@@ -145,7 +146,7 @@ public final class ModelTest {
                 case 0:
                 case 1:
                 case 2:
-                    s.append("cut ").append(pick(clients)).append(number(0, 4));
+                    s.append("cut ").append(pick(clients)).append(number(0, chance(90) ? 3 : 5));
                     break;
                 case 3:
                     s.append("alter ").append(pick(clients)).append(number(0, 11)).append(kind());
@@ -157,7 +158,13 @@ public final class ModelTest {
                     s.append(chance(50) ? "strip " : "day").append(s.charAt(s.length() - 1) == ' ' ? "" + pick(clients) : "");
                     break;
                 case 6:
-                    s.append("sell ").append(pick(Math.max(1, m.orders.size())));
+                    int order = pick(Math.max(1, m.orders.size()));
+                    if (order < m.orders.size() && chance(70)) {
+                        int[] o = m.orders.get(order);
+                        s.append(chance(50) ? "strip " + o[0] + ";" : "").append("cut ").append(o[0]).append(" ").append(o[1])
+                            .append(";");
+                    }
+                    s.append("sell ").append(order);
                     break;
                 case 7:
                     s.append("day");
@@ -232,8 +239,8 @@ public final class ModelTest {
         return chance(98) ? text.length() : text.length() + pick(30) - 15;
     }
 
-    private void shop() {
-        int n = tell(spoil(shopText(), 15));
+    private void shop(int of100) {
+        int n = tell(spoil(shopText(), of100));
         same("shop " + n, () -> x.shop(n), () -> m.shop(n));
         fault();
     }
@@ -243,29 +250,42 @@ public final class ModelTest {
     }
 
     private void pattern(int of100) {
-        int p = chance(97) ? pick(4) : about(6);
+        int p = chance(80) ? 3 + pick(2) : about(6);
         int n = tell(spoil(parts(chance(98) ? 12 : 11 + pick(3), 0), of100));
         same("pattern " + p + " " + n, () -> x.pattern(p, n), () -> m.pattern(p, n));
         fault();
     }
 
     private void law() {
-        int n = tell(spoil(lawText(0), 15));
+        String text = lawText(0);
+        if (chance(70)) {
+            text = "(" + text + ") %" + number(2, 9) + "-" + number(0, 7);
+        }
+        int n = tell(spoil(text, 15));
         same("law " + n, () -> x.law(n), () -> m.law(n));
         fault();
     }
 
     private void work() {
-        int n = tell(spoil(steps(0, 1 + pick(8)), 15));
+        int n = tell(spoil(steps(0, 1 + pick(8)), 12));
         same("work " + n, () -> x.work(n), () -> m.work(n));
         fault();
+        same("all that is worn", () -> worn((c, h) -> x.wears(c, h)), () -> worn((c, h) -> m.wears(c, h)));
+    }
+
+    interface Worn {
+        int at(int client, int hour);
+    }
+
+    /** All hours of all suits as one number. */
+    private long worn(Worn worn) {
+        long all = 0;
         for (int c = 0; c < m.clients.size(); c++) {
-            int client = c;
             for (int h = 0; h < 12; h++) {
-                int hour = h;
-                same("wears " + c + " " + h, () -> x.wears(client, hour), () -> m.wears(client, hour));
+                all = all * 1000003 + worn.at(c, h) + 2;
             }
         }
+        return all;
     }
 
     private void book() {
@@ -340,7 +360,8 @@ public final class ModelTest {
                 same("sewn " + bits + " " + b / 2, () -> x.sewn(bits, b / 2), () -> m.sewn(bits, b / 2));
                 break;
             case 18:
-                same("words " + a, () -> x.words(a), () -> m.words(a));
+                int street = chance(80) ? pick(3) : about(10);
+                same("words " + street, () -> x.words(street), () -> m.words(street));
                 break;
             case 19:
                 same("offers " + what + " " + b / 3, () -> x.offers(what, b / 3), () -> m.offers(what, b / 3));
@@ -391,7 +412,7 @@ public final class ModelTest {
     }
 
     private void change() {
-        switch (pick(14)) {
+        switch (pick(20)) {
             case 0:
                 same("undo", () -> x.undo(), () -> m.undo());
                 break;
@@ -415,7 +436,7 @@ public final class ModelTest {
                 break;
             case 7:
                 if (chance(10)) {
-                    shop();
+                    shop(30);
                 }
                 break;
             default:
@@ -430,14 +451,18 @@ public final class ModelTest {
         x = new SkyTailor();
         m = new Model();
         said.clear();
-        if (chance(95)) {
-            shop();
+        if (chance(97)) {
+            shop(chance(10) ? 15 : 0);
         }
-        for (int p = 0; p < 3; p++) {
-            pattern(5);
+        int told = chance(85) ? 4 : pick(5);
+        for (int p = 0; p < told; p++) {
+            int pattern = p;
+            int n = tell(parts(12, 0));
+            same("pattern " + p, () -> x.pattern(pattern, n), () -> m.pattern(pattern, n));
         }
+        int changes = chance(50) ? 15 : 40;
         while (said.size() < CALLS) {
-            if (chance(15)) {
+            if (chance(changes)) {
                 change();
             } else {
                 ask();
