@@ -175,6 +175,10 @@ public final class AsksTest extends Checks {
         work(x, "cut 0 0;sell 0;");
         due(x.pieces(1), -1);
         due(x.pieces(4), 2);
+        // all bolts of a kind, each to its last hour
+        SkyTailor v = shopOf("bolt sun 5;bolt rain 1;bolt sun 6;client 0;order 0 0 9 9 9;");
+        pattern(v, 0, "5 sun;1 rain;6 sun;");
+        due(v.pieces(1), 3);
         // five runs that go into two bolts, though best fit or largest first want three
         SkyTailor y = shopOf("bolt sun 12;bolt sun 12;bolt sun 12;client 0;order 0 0 9 9 9;order 0 1 9 9 9;");
         pattern(y, 0, "6 sun;1 rain;5 sun;");

@@ -3,6 +3,7 @@ public final class ImagesTest extends Checks {
     public static void main(String[] args) {
         images();
         whatImagesKeep();
+        fullImages();
         status();
         count();
         end();
@@ -94,6 +95,39 @@ public final class ImagesTest extends Checks {
             due(x.undo(), left);
         }
         due(x.told(6), 80);
+    }
+
+    /** Works and images that stand beside one another do not touch one another. */
+    private static void fullImages() {
+        SkyTailor x = shop();
+        for (int i = 0; i < 16; i++) {
+            work(x, "day;");
+        }
+        x.image();
+        for (int i = 0; i < 16; i++) {
+            x.undo();
+        }
+        for (int i = 0; i < 16; i++) {
+            work(x, "day;day;");
+        }
+        x.image();
+        for (int i = 0; i < 16; i++) {
+            x.undo();
+        }
+        for (int i = 0; i < 16; i++) {
+            work(x, "day;day;day;");
+        }
+        x.image();
+        due(x.undo(), 15);
+        for (int days = 3; days > 0; days--) {
+            due(x.restore(), days - 1);
+            due(x.told(4), 16 * days);
+            for (int left = 15; left >= 0; left--) {
+                due(x.undo(), left);
+                due(x.told(4), days * left);
+            }
+            work(x, "cut 0 0;");
+        }
     }
 
     private static void status() {

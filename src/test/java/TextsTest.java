@@ -68,6 +68,12 @@ public final class TextsTest extends Checks {
         due(x.fault(), -1);
         due(x.bolt(0, 1), 7);
         due(x.client(0, 0), 2);
+        due(shop(x, "client 0;client 9;wants 1 0 11 sun 1;wants 0 11 11 sun 9;order 1 0 1 0 1;order 0 5 60 999 24;"), 2);
+        due(x.client(1, 0), 9);
+        due(x.want(0, 2), 11);
+        due(x.want(1, 4), 9);
+        due(x.order(1, 3), 999);
+        due(shop(x, "bolt sun 7;client2;wants0 3 3 fog 9 ; order 0 5 60 0 24 ;"), 1);
         due(x.want(0, 1), 3);
         due(x.want(0, 2), 3);
         due(x.want(0, 3), 5);
@@ -107,6 +113,13 @@ public final class TextsTest extends Checks {
         badShop(" boltsun 3;", -9, 1);
         badShop("bolt Sun 3;", -9, 5);
         badShop("bolt sunn 3;", -9, 5);
+        badShop("bolt suna 3;", -9, 5);
+        badShop("bolt sunz 3;", -9, 5);
+        badShop("bolt su 3;", -9, 5);
+        badShop("bolt sun{3;", -9, 8);
+        badShop("bolt sun`3;", -9, 8);
+        badShop("bolt sun /3;", -9, 9);
+        badShop("bolt sun :3;", -9, 9);
         badShop("bolt sun x;", -9, 9);
         badShop("bolt sun -1;", -9, 9);
         badShop("bolt sun 0;", -8, 9);
@@ -179,6 +192,8 @@ public final class TextsTest extends Checks {
         due(x.count(0), 0);
         due(x.count(2), 0);
         due(x.sky(0, 0), -1);
+        pattern(x, 0, "6 sun;6 fog;");
+        due(x.skies(0), 4095);
         pattern(x, 0, "12 sun;");
         work(x, "cut 0 0;day;");
         due(suit(x, 0), "000000000000");
@@ -203,7 +218,7 @@ public final class TextsTest extends Checks {
         goodPattern(" again 6[1 frost ; 1 wind;] ; ", 12, "434343434343");
         goodPattern("again 0 [];12 wind;again 12 [again 0 [12 sun;];];", 1, "333333333333");
         goodPattern("again 2 [again 3 [1 sun;];again 1 [3 rain;];];", 4, "000111000111");
-        goodPattern("again 1[again 1[again 1[again 1[again 1[again 1[12 sun;];];];];];];", 1, "000000000000");
+        goodPattern("again 1[again 1[again 1[again 1[again 1[again 2[4 wind;2 fog;];];];];];];", 4, "333355333355");
         goodPattern("again 2[1 sun;2 fog;];again 1[6 grey;];", 5, "055055222222");
         SkyTailor x = new SkyTailor();
         noElement(() -> x.pattern(6, 0));
@@ -441,6 +456,8 @@ public final class TextsTest extends Checks {
         due(work(x, "again 20[again 9[];again 9[];again 9[];again 9[];again 9[];again 9[];again 9[];again 9[];again 9[];];day;"), 1);
         due(work(x, "again 20[again 9[];again 9[];again 9[];again 9[];again 9[];again 9[];again 9[];again 9[];again 9[];day;];"
             + "day;"), 19);
+        due(work(x, "again 1[".repeat(6) + "day;" + "];".repeat(6)), 1);
+        due(work(x, "again 2[".repeat(6) + "day;" + "];".repeat(6)), 38);
         for (int i = x.count(2); i < 16; i++) {
             due(work(x, ""), 0);
         }
