@@ -70,6 +70,10 @@ public final class AsksTest extends Checks {
         SkyTailor z = shopOf("client 0;wants 0 0 0 fog 9;wants 0 11 11 sun 9;wants 0 4 7 grey 5;seam 2;");
         due(z.best(0), 19);
         due(bestRow(z, 0), "522222220000");
+        // sun at 3 begins a run of its own: the want from 2 on is lost
+        SkyTailor w = shopOf("client 0;wants 0 0 2 rain 9;wants 0 2 5 sun 4;wants 0 3 3 sun 1;wants 0 4 5 fog 2;seam 0;");
+        due(w.best(0), 12);
+        due(bestRow(w, 0), "111055000000");
         noElement(() -> z.best(1));
         noElement(() -> z.best(-1));
         noElement(() -> z.bestAt(1, 12));
