@@ -67,6 +67,47 @@ abstract class Checks {
         return row.toString();
     }
 
+    /** All that can be seen of a shop but the tape, the latest fault and how many calls were refused. */
+    static String state(SkyTailor x) {
+        StringBuilder all = new StringBuilder();
+        for (int what = 0; what < 10; what++) {
+            all.append(x.told(what)).append(' ');
+        }
+        all.append("images ").append(x.count(0)).append(" works ").append(x.count(2));
+        for (int bolt = 0; bolt < x.told(0); bolt++) {
+            all.append(" bolt ").append(x.bolt(bolt, 0)).append(' ').append(x.bolt(bolt, 1));
+        }
+        for (int client = 0; client < x.told(1); client++) {
+            all.append(" client ").append(suit(x, client)).append(' ').append(x.ahead(client, 1, 0));
+            for (int what = 0; what < 7; what++) {
+                all.append(' ').append(x.client(client, what));
+            }
+        }
+        for (int want = 0; want < x.told(2); want++) {
+            all.append(" want ").append(x.want(want, 0)).append(' ').append(x.want(want, 3)).append(' ').append(x.want(want, 5));
+        }
+        for (int order = 0; order < x.told(3); order++) {
+            all.append(" order ").append(x.order(order, 1)).append(' ').append(x.order(order, 5));
+        }
+        for (int pattern = 0; pattern < 6; pattern++) {
+            all.append(" pattern ").append(sky(x, pattern)).append(' ').append(x.skies(pattern));
+        }
+        return all.toString();
+    }
+
+    /** The hours of a pattern, each a sign; "untold". */
+    static String sky(SkyTailor x, int pattern) {
+        StringBuilder row = new StringBuilder();
+        for (int hour = 0; hour < 12; hour++) {
+            int kind = x.sky(pattern, hour);
+            if (kind == SkyTailor.NONE) {
+                return "untold";
+            }
+            row.append(kind);
+        }
+        return row.toString();
+    }
+
     private static void count(boolean so, String what) {
         if (so) {
             good++;
