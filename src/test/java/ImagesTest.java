@@ -4,6 +4,7 @@ public final class ImagesTest extends Checks {
         images();
         whatImagesKeep();
         fullImages();
+        edges();
         status();
         count();
         end();
@@ -128,6 +129,53 @@ public final class ImagesTest extends Checks {
             }
             work(x, "cut 0 0;");
         }
+    }
+
+    /** A fourth image is none: the third is still the latest. Without one, restore leaves all. */
+    private static void edges() {
+        SkyTailor x = shop();
+        due(x.image(), 1);
+        due(x.restore(), 0);
+        due(x.restore(), -1);
+        for (int i = 1; i <= 3; i++) {
+            work(x, "day;");
+            due(x.image(), i);
+            due(x.count(0), i);
+        }
+        work(x, "day;cut 0 0;");
+        String before = state(x);
+        due(x.image(), -1);
+        due(x.image(), -1);
+        due(state(x), before);
+        due(x.restore(), 2);
+        due(x.told(4), 3);
+        due(x.count(2), 3);
+        // there is room for one again
+        work(x, "day;day;");
+        due(x.image(), 3);
+        due(x.image(), -1);
+        for (int i = 2; i >= 0; i--) {
+            due(x.restore(), i);
+            due(x.told(4), i == 2 ? 5 : i + 1);
+            due(x.told(8), 0);
+        }
+        String last = state(x);
+        work(x, "turn 0;");
+        due(x.told(8), 1);
+        due(x.restore(), -1);
+        due(x.told(8), 1);
+        due(x.undo(), 1);
+        due(state(x), last);
+        // a shop with a fault keeps them, one without has none
+        x.image();
+        due(shop(x, "client 1"), -9);
+        due(x.count(0), 1);
+        due(shop(x, "client 1;"), 1);
+        due(x.count(0), 0);
+        due(x.restore(), -1);
+        due(x.undo(), -1);
+        due(new SkyTailor().image(), 1);
+        due(new SkyTailor().restore(), -1);
     }
 
     private static void status() {
