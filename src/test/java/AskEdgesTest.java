@@ -7,6 +7,7 @@ public final class AskEdgesTest extends Checks {
         fitEdges();
         triesEdges();
         bestEdges();
+        bestAtAlone();
         clashEdges();
         mendEdges();
         piecesEdges();
@@ -175,6 +176,17 @@ public final class AskEdgesTest extends Checks {
         best("wants 0 5 5 fog 3;wants 0 5 5 frost 3;", 3, "444444444444");
         best("wants 0 5 5 fog 3;wants 0 7 7 wind 3;seam 3;", 3, "333333333333");
         best("wants 0 5 5 fog 3;wants 0 7 7 wind 3;seam 2;", 4, "555555333333");
+    }
+
+    /** An hour by best can be asked ahead of best, and of one client behind another. */
+    private static void bestAtAlone() {
+        SkyTailor x = shopOf("client 0;client 0;wants 0 0 11 fog 1;wants 1 0 11 wind 1;");
+        due(x.bestAt(1, 11), 3);
+        due(x.bestAt(0, 0), 5);
+        due(x.bestAt(1, 0), 3);
+        due(x.best(0), 1);
+        due(x.bestAt(1, 5), 3);
+        due(x.bestAt(0, 11), 5);
     }
 
     private static void clashEdges() {
@@ -738,6 +750,14 @@ public final class AskEdgesTest extends Checks {
         due(x.span(1, 20, 0, 60, 2, 0), 20);
         due(x.span(1, 20, 16, 60, 2, 0), 0);
         due(x.told(6), 73);
+        // none left at all; no bolts
+        SkyTailor z = shopOf("bolt sun 1;bolt fog 1;client 0;order 0 0 1 1 1;");
+        SkyTailor w = shopOf("client 0;order 0 0 1 1 1;");
+        pattern(z, 0, "12 sun;");
+        for (int what = 0; what < 3; what++) {
+            due(z.span(5, 20, 16, 60, what, 0), 0);
+            due(w.span(5, 20, 16, 60, what, 0), 0);
+        }
         // no such order, without any; also for the hours
         SkyTailor y = shopOf("bolt sun 13;client 0;");
         for (int what = 0; what < 3; what++) {

@@ -4,10 +4,12 @@ import java.util.NoSuchElementException;
 
 /** Runs of drawn calls, on SkyTailor and on the model at once: each answer must be the same. */
 public final class ModelTest {
-    private static final int RUNS = 700;
-    private static final int CALLS = 480;
+    private static final int RUNS = 800;
+    /** A run goes on up to here; what comes last in it makes no more than 512. */
+    private static final int CALLS = 420;
 
     private long seed;
+    private int calls;
     private SkyTailor x;
     private Model m;
     private final List<String> said = new ArrayList<>();
@@ -43,6 +45,7 @@ public final class ModelTest {
     }
 
     private void same(String name, Call mine, Call due) {
+        calls++;
         String got = answerOf(mine);
         String want = answerOf(due);
         said.add(name + " = " + want);
@@ -270,6 +273,7 @@ public final class ModelTest {
         int n = tell(spoil(steps(0, 1 + pick(8)), 12));
         same("work " + n, () -> x.work(n), () -> m.work(n));
         fault();
+        calls += 12 * m.clients.size();
         same("all that is worn", () -> worn((c, h) -> x.wears(c, h)), () -> worn((c, h) -> m.wears(c, h)));
     }
 
@@ -451,6 +455,7 @@ public final class ModelTest {
         x = new SkyTailor();
         m = new Model();
         said.clear();
+        calls = 0;
         if (chance(97)) {
             shop(chance(10) ? 15 : 0);
         }
@@ -461,7 +466,7 @@ public final class ModelTest {
             same("pattern " + p, () -> x.pattern(pattern, n), () -> m.pattern(pattern, n));
         }
         int changes = chance(50) ? 15 : 40;
-        while (said.size() < CALLS) {
+        while (calls < CALLS) {
             if (chance(changes)) {
                 change();
             } else {

@@ -60,7 +60,6 @@ public final class RefusalsTest extends Checks {
         due(x.restore(), twin.restore());
         due(state(x), state(twin));
         due(x.undo(), twin.undo());
-        due(state(x), state(twin));
     }
 
     /** The call throws, is counted once, and the shop is like one that was never asked. */

@@ -25,6 +25,7 @@ public final class TextEdgesTest extends Checks {
         patternHours();
         firstFault();
         faultsLeaveAll();
+        textsByThemselves();
         latestFault();
         end();
     }
@@ -709,6 +710,41 @@ public final class TextEdgesTest extends Checks {
         due(state(x), state(twin));
         due(x.undo(), twin.undo());
         due(state(x), state(twin));
+    }
+
+    /** A text is read as if no other had been: seams and hands without being told, laws, patterns, books. */
+    private static void textsByThemselves() {
+        SkyTailor x = new SkyTailor();
+        due(shop(x, "seam 9;hands 24;client 0;bolt fog 9;wants 0 0 3 sun 1;order 0 0 1 1 1;"), 1);
+        due(shop(x, "seam 7;hands 3;bolt"), -9);
+        due(shop(x, "client 0;order 0 0 1 5 17;order 0 0 1 3 16;"), 1);
+        due(pattern(x, 0, "6 sun;6 fog;"), 2);
+        due(x.tries(0, 0), -1);
+        due(x.sewn(3, 1), 2);
+        due(x.told(0), 0);
+        due(x.told(2), 0);
+        due(x.told(3), 2);
+        due(pattern(x, 1, "11 sun;"), -6);
+        due(pattern(x, 1, "1 fog;"), -6);
+        due(pattern(x, 1, "12 rain;"), 1);
+        due(sky(x, 1), "111111111111");
+        due(book(x, "0 sun;1 sun;"), 2);
+        due(book(x, "1 fog;x"), -9);
+        due(book(x, "1 fog;"), 1);
+        due(x.skies(0), 252);
+        due(shop(x, "bolt sun 60;client 0;"), 1);
+        pattern(x, 0, "12 sun;");
+        work(x, "cut 0 0;");
+        for (int i = 0; i < 4; i++) {
+            due(law(x, "0" + "+1-1".repeat(37)), 1);
+            due(x.ahead(0, 1, 0), 0);
+            due(law(x, "1" + "+1-1".repeat(36) + "+"), -9);
+            due(x.ahead(0, 1, 0), 0);
+            due(law(x, "1" + "+1-1".repeat(37)), 1);
+            due(x.ahead(0, 1, 0), 12);
+        }
+        due(law(x, "hour - 9"), 1);
+        due(x.ahead(0, 1, 0), 2);
     }
 
     private static void latestFault() {
